@@ -1,0 +1,70 @@
+// Compares answers with those that are due; a test ends with done().
+final class Check {
+    private static int wrong = 0;
+    private static int asked = 0;
+
+    interface Call {
+        int run();
+    }
+
+    static void is(String what, long want, Call call) {
+        same(what, String.valueOf(want), answer(call));
+    }
+
+    static void refuses(String what, Class<? extends RuntimeException> want, Call call) {
+        same(what, "throws." + want.getSimpleName(), answer(call));
+    }
+
+    static void same(String what, String want, String got) {
+        asked++;
+        if (!want.equals(got)) {
+            wrong++;
+            System.out.println(what + " answered " + got + ", due is " + want);
+        }
+    }
+
+    // Only what a call may throw at all; any other exception ends the test.
+    static String answer(Call call) {
+        try {
+            return String.valueOf(call.run());
+        } catch (RuntimeException e) {
+            return "throws." + e.getClass().getSimpleName();
+        }
+    }
+
+    // The rows of a view, as one text.
+    static String shown(Lensbench x, int view) {
+        StringBuilder text = new StringBuilder();
+        for (int i = 0; i < x.rows(view); i++) {
+            text.append(i == 0 ? "" : " ").append(x.row(view, i));
+        }
+        return text.toString();
+    }
+
+    // The rows of the open draft, as one text.
+    static String draft(Lensbench x) {
+        StringBuilder text = new StringBuilder();
+        for (int i = 0; x.draftRow(i) != Lensbench.NONE; i++) {
+            text.append(i == 0 ? "" : " ").append(x.draftRow(i));
+        }
+        return text.toString();
+    }
+
+    // An object whose table 0 has these columns, this key and these rows, and whose view 0 is its TABLE.
+    static Lensbench with(int columns, int key, int... rows) {
+        Lensbench x = new Lensbench();
+        int table = x.table(columns, key);
+        for (int row : rows) {
+            x.insert(table, row);
+        }
+        x.of(table);
+        return x;
+    }
+
+    static void done(String test) {
+        System.out.println(test + ": " + asked + " answers, " + wrong + " wrong");
+        if (wrong != 0 || asked == 0) {
+            System.exit(1);
+        }
+    }
+}
