@@ -182,6 +182,10 @@ public final class PutBackTest {
         }
         Check.is("19 no conflict", -1, () -> x.conflictRow(0));
         Check.is("19 no conflict", -1, () -> x.conflictRow(1));
+        x.add(21);
+        Check.is("19 asked ahead of conflict()", 21, () -> x.conflictRow(1));
+        x.takeOut(11);
+        Check.is("19 not the last answer again", -1, () -> x.conflictRow(1));
     }
 
     private static void tableWritesBack() {
