@@ -15,6 +15,22 @@ final class Check {
         same(what, "throws." + want.getSimpleName(), answer(call));
     }
 
+    static void index(String what, Call call) {
+        refuses(what, IndexOutOfBoundsException.class, call);
+    }
+
+    static void argument(String what, Call call) {
+        refuses(what, IllegalArgumentException.class, call);
+    }
+
+    static void state(String what, Call call) {
+        refuses(what, IllegalStateException.class, call);
+    }
+
+    static void element(String what, Call call) {
+        refuses(what, java.util.NoSuchElementException.class, call);
+    }
+
     static void same(String what, String want, String got) {
         asked++;
         if (!want.equals(got)) {
@@ -48,6 +64,28 @@ final class Check {
             text.append(i == 0 ? "" : " ").append(x.draftRow(i));
         }
         return text.toString();
+    }
+
+    // All that the calls tell of an object without changing it.
+    static String all(Lensbench x) {
+        StringBuilder text = new StringBuilder();
+        for (int i = -1; i <= 10; i++) {
+            int view = i;
+            text.append(i).append(": ").append(answer(() -> x.columns(view))).append(' ')
+                    .append(answer(() -> x.key(view))).append(' ').append(answer(() -> x.rows(view)));
+            for (int p = 0; i >= 0 && p < 12; p++) {
+                int place = p;
+                text.append(' ').append(answer(() -> x.row(view, place)));
+            }
+            text.append('\n');
+        }
+        for (int p = 0; p <= 20; p++) {
+            int place = p;
+            text.append(answer(() -> x.draftRow(place))).append(' ');
+        }
+        return text.append(answer(() -> x.conflict())).append(' ').append(answer(() -> x.conflictRow(0)))
+                .append(' ').append(answer(() -> x.conflictRow(1))).append(' ').append(answer(() -> x.changes()))
+                .append(' ').append(answer(() -> x.fewest())).toString();
     }
 
     // An object whose table 0 has these columns, this key and these rows, and whose view 0 is its TABLE.
