@@ -31,6 +31,37 @@ final class Doc {
         return whole().substring(start, whole().indexOf(to));
     }
 
+    // The declarations of the public face.
+    static List<String> face() {
+        int start = whole().indexOf("```java");
+        List<String> declared = new ArrayList<>();
+        for (String line : whole().substring(start, whole().indexOf("```", start + 3)).split("\n")) {
+            if (line.startsWith("    public ")) {
+                declared.add(line.trim());
+            }
+        }
+        return declared;
+    }
+
+    // How a promise declares its call.
+    static String declaration(int promise) {
+        String text = part(promise);
+        int start = text.indexOf('`') + 1;
+        return text.substring(start, text.indexOf('`', start));
+    }
+
+    // What the interface says ahead of some calls, with their names: "tables: table insert delete".
+    static List<String> headings() {
+        List<String> headings = new ArrayList<>();
+        for (String line : part(TERMS).split("\n")) {
+            if (line.startsWith("Ahead of the calls ")) {
+                String calls = line.replaceAll("^[^`]*|the interface says.*$|[`,]", "").trim();
+                headings.add(line.replaceAll("^.*---- |\\.$", "") + ": " + calls);
+            }
+        }
+        return headings;
+    }
+
     // The lines of a part that ask for something: not the headings, the face, the declarations.
     static List<String> lines(int promise) {
         List<String> asked = new ArrayList<>();

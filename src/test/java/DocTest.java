@@ -13,8 +13,6 @@ import java.util.stream.Stream;
 public final class DocTest {
     private static final Pattern SAYS = Pattern.compile(
             "Doc\\.says\\((\\w+(?:\\.TERMS)?),\\s*((?:\"[^\"]*\"\\s*\\+?\\s*)+)\\)");
-    // The first paragraph tells what the document is about; its parts are told again in the terms.
-    private static final String ABOUT = "Lensbench, a small relational language";
 
     public static void main(String[] args) throws IOException {
         List<List<String>> said = said();
@@ -22,9 +20,7 @@ public final class DocTest {
             List<String> sentences = said.get(promise);
             sentences.sort(Comparator.comparingInt(String::length).reversed());
             for (String line : Doc.lines(promise)) {
-                if (!line.startsWith(ABOUT)) {
-                    Check.same("of promise " + promise + " no test names", "", left(line, sentences));
-                }
+                Check.same("of promise " + promise + " no test names", "", left(line, sentences));
             }
         }
         Check.done("DocTest");

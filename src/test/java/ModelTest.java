@@ -3,6 +3,7 @@ import java.util.Random;
 // Runs of calls, always the same ones, with the answers that Model gives.
 public final class ModelTest {
     private static final int RUNS = 1500;
+    private static final int DEEP_RUNS = 500;
     private static final int CALLS = 160;
 
     private final Lensbench x = new Lensbench();
@@ -28,6 +29,9 @@ public final class ModelTest {
     public static void main(String[] args) {
         for (int run = 0; run < RUNS; run++) {
             new ModelTest(run).play();
+        }
+        for (int run = RUNS; run < RUNS + DEEP_RUNS; run++) {
+            new ModelTest(run).playDeep();
         }
         Check.done("ModelTest");
     }
@@ -55,6 +59,26 @@ public final class ModelTest {
                 compareAll();
             }
         }
+    }
+
+    // Ten views over tables that can be joined, and drafts of these alone.
+    private void playDeep() {
+        prepareJoin();
+        for (int i = 0; i < 40 && views < 10; i++, call++) {
+            makeView();
+        }
+        while (call < CALLS) {
+            editAtLength();
+            if (random.nextInt(3) == 0) {
+                writeTable();
+                call++;
+            } else if (random.nextInt(3) == 0) {
+                same("undo()", x::undo, y::undo);
+                call++;
+            }
+            call++;
+        }
+        compareAll();
     }
 
     private int same(String what, Check.Call asked, Check.Call due) {

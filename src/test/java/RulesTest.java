@@ -24,6 +24,8 @@ public final class RulesTest {
         thrown(source);
         divisors(source);
         methods(source);
+        made(source);
+        recursion(source);
         Check.done("RulesTest");
     }
 
@@ -68,5 +70,34 @@ public final class RulesTest {
                 start = -1;
             }
         }
+    }
+
+    // Rule 12: objects are made with a Lensbench, a table or a view alone, and used again by all calls.
+    private static void made(String source) {
+        String[] allowed = {
+            "(private )?(static )?final [\\w\\[\\]]+ \\w+ = new [\\w\\[\\]()]+;", "return keepView\\(new \\w+\\(.*\\)\\);",
+            "tables\\[tableCount\\] = new Table\\(columns, key\\);", "past\\[i\\] = new Rows\\(TABLE_ROWS\\);",
+            "numbers = new int\\[room < 0 \\? 0 : room\\];", "throw new .*",
+        };
+        for (String line : source.split("\n")) {
+            if (line.matches(".*\\bnew \\w+ *[\\[(].*|.*\\bnew *\\w*\\{.*|.*\\.clone\\(.*|.*\\bArrays\\..*")) {
+                Check.same("made in a constructor or for a table or view: " + line, "true",
+                        "" + line.trim().matches(String.join("|", allowed)));
+            }
+        }
+    }
+
+    // Rule 8: one method alone calls itself, with the depth as an argument that is tested.
+    private static void recursion(String source) {
+        String name = "";
+        for (String line : source.split("\n")) {
+            Matcher head = Pattern.compile("( {4}| {8})[\\w\\[\\]<> ]+ (\\w+)\\(.*").matcher(line);
+            if (head.matches() && !line.trim().startsWith("return ") && !line.contains(" new ")) {
+                name = head.group(2);
+            } else if (!name.isEmpty() && Pattern.compile("(?<![.\\w])" + name + "\\(").matcher(line).find()) {
+                Check.same("calls itself: " + line.trim(), "true", "" + line.matches(".*\\bpassDown\\(.*, depth \\+ 1\\);"));
+            }
+        }
+        Check.same("the depth is tested", "true", "" + source.contains("depth >= MAX_VIEWS"));
     }
 }
